@@ -29,6 +29,7 @@ public final class PromisesTest {
         kinds();
         rivals();
         beaten();
+        beatenByAll();
         seatsNeeded();
         joining();
         forming();
@@ -448,6 +449,9 @@ public final class PromisesTest {
         due("many(32)", x.many(32), -1);
         due("many(-1)", x.many(-1), -1);
         due("nth(8, 3)", x.nth(8, 3), 4);
+        due("nth(0, 0)", x.nth(0, 0), 1);
+        due("nth(0, 6)", x.nth(0, 6), 7);
+        due("nth(16, 0)", x.nth(16, 0), 5);
         due("nth(1, 1)", x.nth(1, 1), 5);
         due("nth(1, 3)", x.nth(1, 3), -1);
         due("nth(1, -1)", x.nth(1, -1), -1);
@@ -496,6 +500,13 @@ public final class PromisesTest {
         due("round: drift(1, 0)", round.drift(1, 0), 3);
         due("round: drift(1, 1)", round.drift(1, 1), 0);
         due("round: none HOLDS", round.many(16), 0);
+        // Only all together CAN be: 6, -2, -4 (x has c, y has a, each 1) rather than 2, -8, -8.
+        TurnCabinet all = of("care 2;need 8;office a;office b;office c;party x seats 3 at 1;party y seats 3 at 9;"
+            + "party z seats 3 at 1;worth x c 1;worth y a 1;");
+        due("rival: all together", all.rival(3), 7);
+        due("rival of the only one", all.rival(7), 0);
+        due("dream: all together", all.dream(2), 7);
+        due("drift: to all together", all.drift(3, 1), 7);
     }
 
     // Promises 25, 26
@@ -517,6 +528,18 @@ public final class PromisesTest {
         due("barred beats(5, 3)", barred.beats(5, 3), 1);
         due("barred unbeaten(-1)", barred.unbeaten(-1), 1);
         due("barred unbeaten(0)", barred.unbeaten(0), 3);
+    }
+
+    // Promise 26: GRIEF of x, y, z by {x, y}: 9, 0, 8; by {x, z}: 0, 0, 8; by {y, z}: 13, 0, 0; by all: 4, 0, 0.
+    private static void beatenByAll() {
+        TurnCabinet x = of("office a;office b;office c;party x seats 2 at 5;party y seats 3 at 8;party z seats 2 at 7;"
+            + "worth x a 3;worth x b 2;worth y c 3;worth z b 4;worth z c 2;stance x b 2;stance y a 3;");
+        due("beats(7, 3) by just what is needed", x.beats(7, 3), 1);
+        due("beats(5, 3)", x.beats(5, 3), 0);
+        due("beats(6, 3)", x.beats(6, 3), 0);
+        int[] unbeaten = {5, 6, 7, -1};
+        for (int k = 0; k < 4; k++) due("unbeaten(" + k + ")", x.unbeaten(k), unbeaten[k]);
+        due("unbeaten(-1)", x.unbeaten(-1), 3);
     }
 
     // Promises 27, 28, 29, 30, 31
@@ -725,6 +748,13 @@ public final class PromisesTest {
         due("all leave", all.crisis(), 2);
         due("NOW is none", all.now(-1), 0);
         due("again", all.crisis(), 0);
+        StringBuilder seven = new StringBuilder("office o;");
+        for (char c = 'a'; c <= 'g'; c++) seven.append("party ").append(c).append(" seats 1 at 1 walk 999;");
+        TurnCabinet many = of(seven.toString());
+        many.hold(127, 0);
+        due("seven leave", many.crisis(), 7);
+        due("undo() of seven", many.undo(), 1);
+        due("all are in office again", many.now(-1), 127);
         TurnCabinet like = of("office a;party p seats 5 at 0 walk 10;worth p a 1;");
         like.hold(1, 0);
         due("as much as it wants", like.crisis(), 0);

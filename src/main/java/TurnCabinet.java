@@ -877,7 +877,8 @@ public final class TurnCabinet {
 
         private void readOffice() {
             if (draft.offices >= MOST_OFFICES) fail(TOO_MANY);
-            long name = readNewName();
+            long name = readName();
+            checkNew(name);
             readSign();
             if (fault != 0) return;
             officeNames[draft.offices & 7] = name;
@@ -886,7 +887,8 @@ public final class TurnCabinet {
 
         private void readParty() {
             if (draft.parties >= MOST_PARTIES) fail(TOO_MANY);
-            long name = readNewName();
+            long name = readName();
+            checkNew(name);
             readWord(SEATS);
             int seats = readNumber(1, MOST_SEATS);
             readWord(AT);
@@ -947,14 +949,12 @@ public final class TurnCabinet {
             if (word != due) failToken();
         }
 
-        private long readNewName() {
-            long name = readName();
+        private void checkNew(long name) {
             if (find(partyNames, draft.parties, name) != NONE) fail(BAD_NAME);
             if (find(officeNames, draft.offices, name) != NONE) fail(BAD_NAME);
-            return name;
         }
 
-        /** Which of the names it is; 7, which no PARTY and no told OFFICE can be taken by, at a FAULT. */
+        /** Which of the names it is; at a FAULT 7, so that rows of eight can be asked by it all the same. */
         private int known(long[] names, int n, long name) {
             int i = find(names, n, name);
             if (i == NONE) fail(BAD_NAME);
