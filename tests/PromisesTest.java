@@ -1,9 +1,5 @@
 /** Each promise by answers that were found by hand: ordinary inputs, the edges that the document names, wrong inputs. */
-public final class PromisesTest {
-    private static final int NO = -1000000;
-    private static int wrong = 0;
-    private static int asked = 0;
-
+public final class PromisesTest extends Asking {
     // x, y, z have 50, 30, 20 of 100 SEATS: only with x there is a MAJORITY.
     private static final String WORTHS = "worth x a 9;worth x b 5;worth x c 1;worth y a 8;worth y b 7;worth y c 2;"
         + "worth z a 3;worth z b 4;worth z c 6;";
@@ -42,34 +38,7 @@ public final class PromisesTest {
         undoing();
         judging();
         constants();
-        System.out.println(wrong == 0 ? asked + " answers are as due" : wrong + " answers are not as due");
-        if (wrong != 0) System.exit(1);
-    }
-
-    private static void due(String call, int got, int want) {
-        asked++;
-        if (got == want) return;
-        wrong++;
-        System.out.println(call + " answered " + got + ", due is " + want);
-    }
-
-    private static void tell(TurnCabinet x, String text) {
-        for (int at = 0; at < text.length(); at += 20) {
-            int[] n = new int[5];
-            for (int i = 0; i < 20; i++) {
-                int b = at + i < text.length() ? text.charAt(at + i) : 0;
-                n[i / 4] = n[i / 4] << 8 | b & 255;
-            }
-            x.feed(n[0], n[1], n[2], n[3], n[4]);
-        }
-        x.end(text.length());
-    }
-
-    private static TurnCabinet of(String text) {
-        TurnCabinet x = new TurnCabinet();
-        tell(x, text);
-        if (x.house() < 0) due("house() of " + text + ": place " + x.fault(1) + ", fault", x.fault(0), 0);
-        return x;
+        end();
     }
 
     // Promise 1
@@ -141,14 +110,6 @@ public final class PromisesTest {
         due("now(-1) without OFFICES", x.now(-1), 1);
         due("leave() without OFFICES", x.leave(0), 0);
         due("now(-1) then", x.now(-1), 0);
-    }
-
-    private static void fault(String text, int what, int place) {
-        TurnCabinet x = new TurnCabinet();
-        tell(x, text);
-        due("house() of [" + text + "]", x.house() < 0 ? 1 : 0, what == 0 ? 0 : 1);
-        due("fault(0) of [" + text + "]", x.fault(0), what);
-        due("fault(1) of [" + text + "]", x.fault(1), place);
     }
 
     // Promise 5, term 1
