@@ -396,10 +396,20 @@ public final class CabinetEdgesTest extends Sentences {
         due("13 ACTS", y.about(7), 12);
         for (int n = 12; n >= 1; n--) {
             due("undo() of 13", y.undo(), n - 1);
-            due("now(-1) of 13", y.now(-1), 1 + n % 3);
+            int[][] due = {{1, 0, 0, 0, 0}, {2, 1, 1, 1, 1}, {3, 0, 1, 0, 1}};
+            now(y, due[n % 3]);
         }
         due("no undo() of the first one", y.undo(), -1);
         due("the first one stays", y.now(-1), 2);
+        // Whose SEATS were changed goes along: 14 ACTS, the first two are gone.
+        TurnCabinet seats = of(FOUR);
+        for (int n = 1; n <= 14; n++) seats.seats(n % 3, 20 + n);
+        for (int n = 14; n >= 3; n--) {
+            due("undo() of SEATS", seats.undo(), n - 3);
+            due("their PARTY", seats.party(n % 3, 0), n > 3 ? 17 + n : 4);
+        }
+        due("the first of 14 stays", seats.party(1, 0), 21);
+        due("the second of 14 stays", seats.party(2, 0), 22);
         // Of as many as can be told: SEATS 20 to 119.
         TurnCabinet z = of(FOUR);
         for (int n = 20; n < 120; n++) z.seats(0, n);

@@ -23,6 +23,7 @@ public final class CoalitionEdgesTest extends Sentences {
         likeTurns();
         extremeTurns();
         picksOfLikeWorth();
+        picksOfGreatWorth();
         swapsInOrder();
         swapsThatHelpBoth();
         middles();
@@ -37,6 +38,7 @@ public final class CoalitionEdgesTest extends Sentences {
         beatingBySeats();
         sharesKept();
         envies();
+        policies();
         otherTurns();
         otherOffices();
         kindsAsked();
@@ -212,7 +214,7 @@ public final class CoalitionEdgesTest extends Sentences {
 
     private static void likeTurns() {
         term(2, "of like ones the one with more SEATS, then the least one");
-        // 6; 3 of q and 3 of r: r has more SEATS; q; 2 of p, q (4 / 2 is 2 of r's 6 / 3), ...
+        // r has 6; 3 of q and 3 (6 / 2) of r: r has more SEATS; q; 2 of p, s and 2 (6 / 3) of r: r, then p, s.
         TurnCabinet x = of(offices(6) + seats(2, 3, 6, 2));
         row("turn", IntStream.range(0, 6).map(i -> x.turn(15, i)), 2, 2, 1, 2, 0, 3);
         TurnCabinet y = of(offices(4) + seats(7, 7, 7));
@@ -259,6 +261,20 @@ public final class CoalitionEdgesTest extends Sentences {
         promise(12, "(0, if it is not in the COALITION)");
         due("has() of one out of it", y.has(2, 1, 0), 0);
         due("has() of the lone one", y.has(2, 1, 1), 18);
+    }
+
+    private static void picksOfGreatWorth() {
+        promise(14, "What a PARTY whose the i-th TURN is would have at last together");
+        StringBuilder dear = new StringBuilder();
+        for (char o = 'a'; o <= 'h'; o++) dear.append("worth p ").append(o).append(" 99;");
+        TurnCabinet most = of(offices(8) + seats(99) + dear);
+        row("all of 99, at first", IntStream.range(0, 8).map(o -> most.instead(1, 0, o)), 792, 792, 792, 792, 792, 792, 792, 792);
+        due("all of 99, at last", most.instead(1, 7, 7), 792);
+        // q has the fourth TURN of eight, p all others: 7 times 99 for p, whatever is left for q.
+        TurnCabinet more = of(offices(8) + seats(99, 25) + dear + "worth q a 98;worth q b 1;");
+        row("TURNS", IntStream.range(0, 8).map(i -> more.turn(3, i)), 0, 0, 0, 1, 0, 0, 0, 0);
+        row("seven of 99", IntStream.range(0, 3).map(o -> more.instead(3, 0, o)), 693, 693, 693);
+        row("q's then", IntStream.range(0, 5).map(o -> more.instead(3, 3, o)), -1, -1, -1, 0, 0);
     }
 
     private static void swapsInOrder() {
@@ -363,6 +379,7 @@ public final class CoalitionEdgesTest extends Sentences {
         for (int c : whole) due("kind(" + c + ") & 8", x.kind(c) & 8, 8);
         for (int c : new int[] {9, 10, 17, 18, 11, 19, 25, 26, 27}) due("kind(" + c + ") & 8", x.kind(c) & 8, 0);
         due("many CONNECTED ones", x.many(8), 22);
+        due("the first one between", of("party p seats 1 at 5;party q seats 1 at 4;party r seats 1 at 6;").kind(6) & 8, 0);
         TurnCabinet far = of("party p seats 1 at 0;party q seats 1 at 99;party r seats 1 at 1;party s seats 1 at 98;");
         due("from 0 to 99", far.kind(3) & 8, 0);
         due("from 0 to 99 without a gap", far.kind(15) & 8, 8);
@@ -407,6 +424,11 @@ public final class CoalitionEdgesTest extends Sentences {
         TurnCabinet one = of(offices(1) + seats(9, 1) + "worth p a 1;");
         due("a step", one.drift(2, 0), 1);
         due("its end", one.drift(2, 1), 1);
+        // PAY below 0 by what CAN'T be (q's COALITION, -9 for p), asked ahead of all else.
+        String far = "care 1;party p seats 9 at 0;party q seats 1 at 9;";
+        due("a step from PAY below 0", of(far).drift(2, 0), 1);
+        due("its end, too", of(far).drift(2, 1), 1);
+        due("its RIVAL", of(far).rival(2), 1);
     }
 
     private static void beatingBySeats() {
@@ -433,6 +455,12 @@ public final class CoalitionEdgesTest extends Sentences {
         due("{p, r}", barred.unbeaten(1), 5);
         promise(26, "How many COALITIONS are UNBEATEN (k NONE); the k-th (0 .., the least number first). NONE if there is none such");
         for (int k : new int[] {-2, 2, 3, 127, Integer.MAX_VALUE, Integer.MIN_VALUE}) due("unbeaten(" + k + ")", barred.unbeaten(k), -1);
+        // Only {p} and {q} CAN be; q's GRIEF is 0 by both.
+        TurnCabinet lone = of("need 1;" + offices(1) + seats(9, 1) + "stance p a 5;worth p a 1;bar p q;");
+        due("{p} BEATS {q}", lone.beats(1, 2), 1);
+        due("unbeaten(-1) but {q}", lone.unbeaten(-1), 1);
+        due("unbeaten(0) but {q}", lone.unbeaten(0), 1);
+        due("unbeaten(1) but {q}", lone.unbeaten(1), -1);
         TurnCabinet none = of("need 999;" + seats(1));
         due("unbeaten(-1) of none", none.unbeaten(-1), 0);
         due("unbeaten(0) of none", none.unbeaten(0), -1);
@@ -471,6 +499,7 @@ public final class CoalitionEdgesTest extends Sentences {
         due("like ones", of(house + "worth q a 5;worth q b 5;").envy(3, 0), 0);
         due("more", of(house + "worth q a 6;worth q b 5;").envy(3, 0), 1);
         due("less", of(house + "worth q a 5;worth q b 6;").envy(3, 0), 0);
+        due("the first one's", of(offices(2) + seats(2, 9) + "worth p b 1;").envy(3, 0), 1);
         due("of one that is not in it", of(house + "worth q a 6;").envy(1, 0), 0);
         // p has three, q one: q's is worth 3 to it, p's three are 4 together.
         due("together", of(offices(4) + seats(9, 3) + "worth q a 2;worth q b 1;worth q c 1;worth q d 3;worth p a 9;worth p b 9;worth p c 9;").envy(3, 1), 1);
@@ -478,6 +507,9 @@ public final class CoalitionEdgesTest extends Sentences {
         TurnCabinet x = of(offices(3) + seats(3, 3, 3) + "worth p a 1;worth q a 3;worth q b 2;worth r a 3;worth r b 2;worth r c 1;");
         for (int way = 0; way < 3; way++) due("three, by " + way, x.envy(7, way), 3);
         due("way 3", x.envy(7, 3), -1);
+    }
+
+    private static void policies() {
         promise(17, "POLICY on an OFFICE (way as above)");
         TurnCabinet y = of(FIVE + "stance q b 9;stance p b 1;stance q d 7;stance t d 2;");
         row("FORESEEN", IntStream.range(0, 5).map(o -> y.policy(15, 1, o)), 0, 9, 0, 2, 0);
@@ -638,6 +670,7 @@ public final class CoalitionEdgesTest extends Sentences {
         TurnCabinet z = of("care 1;" + THREE + "bar q r;bar p r;");
         row("not in it", IntStream.range(0, 3).map(p -> z.dream(p)), 3, 3, 3);
         TurnCabinet none = of("need 999;" + seats(2, 2));
+        row("the lone one, of like PAY", IntStream.range(0, 3).map(p -> of("need 2;" + seats(2, 2, 2)).dream(p)), 1, 1, 1);
         row("none CAN be", IntStream.range(0, 3).map(p -> none.dream(p)), 0, 0, -1);
         due("PAY below 0 all the same", of("care 9;party p seats 9 at 0;party q seats 1 at 99;").dream(1), 3);
         due("without PARTIES", new TurnCabinet().dream(0), -1);

@@ -390,6 +390,8 @@ public final class PromisesTest extends Asking {
         due("kept(3, 2)", x.kept(3, 2), -1);
         due("kept(3, -1)", x.kept(3, -1), -1);
         due("kept(0, 0)", x.kept(0, 0), -1);
+        // The document leaves this one open; NOTES.md tells how it was read.
+        for (int what = 0; what < 2; what++) due("kept(1, " + what + ") without OFFICES", of("party p seats 5 at 0;").kept(1, what), 0);
         // Together most: p both of 9 and 8 to it can't be, it has one TURN; at least: 5 and 4 rather than 9 and 1.
         TurnCabinet z = of("office a;office b;party p seats 5 at 0;party q seats 5 at 0;worth p a 9;worth p b 5;worth q a 4;worth q b 1;");
         due("kept together", z.kept(3, 0), 10);

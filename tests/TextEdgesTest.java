@@ -495,6 +495,12 @@ public final class TextEdgesTest extends Sentences {
         due("no STANCE of the one ahead", x.policy(1, 1, 0), 0);
         due("no bar of the one ahead", x.party(0, 4), 0);
         due("{p, q} is FREE", x.kind(3) & 2, 2);
+        String all = "need 3;care 2;tries 3;tire 4;divisors 5 6;" + offices(8) + parties(7) + "worth p a 9;worth v h 9;stance p a 8;"
+            + "stance v h 8;bar p q;";
+        for (int n = 0; n < 3; n++) {
+            tell(x, all);
+            due("house() of the same text again", x.house(), 7);
+        }
     }
 
     private static void faulty() {
