@@ -24,6 +24,7 @@ public final class TextEdgesTest extends Sentences {
         likePlaces();
         whatCannotStand();
         namesThatCannotBe();
+        numbersThatCannotBe();
         oneTooMany();
         newObject();
         feeding();
@@ -393,6 +394,25 @@ public final class TextEdgesTest extends Sentences {
         fault(TWO + "worth p a 1;worth p a", 3, 50);
         fault(TWO + "stance p a 1;stance p a", 3, 52);
         fault(TWO + "bar p p", 3, 36);
+    }
+
+    private static void numbersThatCannotBe() {
+        term(1, "4 a number that can't be");
+        // At the number, whatever comes behind it; the ranges are tried with each line above.
+        fault("need 0", 4, 5);
+        fault("need 00;", 4, 5);
+        fault("need 000", 4, 5);
+        fault("care 010;", 4, 5);
+        fault("divisors 0", 4, 9);
+        fault("divisors 0 0;", 4, 9);
+        fault("divisors 1 0", 4, 11);
+        fault("divisors 100 #", 4, 9);
+        fault("party p seats 0 at 100 walk 1000;", 4, 14);
+        fault("party p seats 1 at 100 walk 1000;", 4, 19);
+        fault("party p seats 1 at 99 walk 1000;", 1, 27);
+        fault(TWO + "worth p a 100", 4, 40);
+        fault(TWO + "worth q a 100", 3, 36);
+        fault(TWO + "stance p a 10", 4, 41);
     }
 
     private static void oneTooMany() {
