@@ -65,6 +65,18 @@ public final class CoalitionEdgesTest extends Sentences {
         return text.toString();
     }
 
+    /** What the OFFICES a, b, .. are worth to p, to q, .. */
+    private static String worths(int[][] worths) {
+        StringBuilder text = new StringBuilder();
+        for (int p = 0; p < worths.length; p++) {
+            for (int o = 0; o < worths[p].length; o++) {
+                text.append("worth ").append((char) ('p' + p)).append(' ').append((char) ('a' + o)).append(' ');
+                text.append(worths[p][o]).append(';');
+            }
+        }
+        return text.toString();
+    }
+
     private static void row(String call, IntStream got, int... want) {
         int[] answers = got.toArray();
         for (int i = 0; i < want.length; i++) due(call + " " + i, answers[i], want[i]);
@@ -288,6 +300,20 @@ public final class CoalitionEdgesTest extends Sentences {
         due("swaps(15)", x.swaps(15), 2);
         due("swaps() of one PARTY", x.swaps(1), 0);
         due("swaps() again", x.swaps(15), 2);
+        term(2, "the first (least a, then b) are exchanged");
+        // r has a (6), b; p has d (4), s has e (5): r would rather have d (8) or e (7), p and s would rather have a (5, 8).
+        TurnCabinet y = of(offices(5) + seats(4, 5, 6, 4)
+            + worths(new int[][] {{5, 3, 0, 4, 4}, {7, 6, 7, 4, 6}, {6, 8, 6, 8, 7}, {8, 4, 2, 2, 5}}));
+        row("turn", IntStream.range(0, 5).map(i -> y.turn(15, i)), 2, 1, 0, 3, 2);
+        row("FORESEEN", IntStream.range(0, 5).map(o -> y.gets(15, 1, o)), 2, 2, 1, 0, 3);
+        row("SETTLED", IntStream.range(0, 5).map(o -> y.gets(15, 2, o)), 0, 2, 1, 2, 3);
+        due("swaps(15) with d, not e", y.swaps(15), 1);
+        // Of eight: r has a (3), p has g (4) and h (3): r would rather have g (5) or h (4), p would rather have a (5).
+        TurnCabinet z = of(offices(8) + seats(2, 1, 1)
+            + worths(new int[][] {{5, 0, 1, 1, 4, 2, 4, 3}, {1, 5, 0, 2, 0, 1, 4, 3}, {3, 2, 1, 2, 3, 0, 5, 4}}));
+        row("FORESEEN of eight", IntStream.range(0, 8).map(o -> z.gets(7, 1, o)), 2, 1, 2, 1, 0, 0, 0, 0);
+        row("SETTLED of eight", IntStream.range(0, 8).map(o -> z.gets(7, 2, o)), 0, 1, 2, 1, 0, 0, 2, 0);
+        due("swaps(7) with g, not h", z.swaps(7), 1);
     }
 
     private static void swapsThatHelpBoth() {
