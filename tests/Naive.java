@@ -59,7 +59,10 @@ final class Naive {
     int nowCoalition = 0;
     Integer[] holder = new Integer[0];
     List<Object[]> acts = new ArrayList<>();
-    Map<String, int[]> foreseen = new HashMap<>();
+    Map<Integer, int[]> foreseen = new HashMap<>();
+    // Only in a large HOUSE is it kept how it ends by what is left; in others each order of OFFICES is looked at.
+    boolean large = false;
+    Map<String, int[]> endings = new HashMap<>();
 
     // ---- the text
 
@@ -195,6 +198,7 @@ final class Naive {
         nowCoalition = 0;
         acts.clear();
         foreseen.clear();
+        endings.clear();
         return n();
     }
 
@@ -358,6 +362,16 @@ final class Naive {
 
     /** How it ends, the first i TURNS being done. */
     int[] foresee(int[] turns, int i, int[] holders) {
+        if (!large) return lookAhead(turns, i, holders);
+        String key = Arrays.toString(turns);
+        for (int holder : holders) key += holder == NONE ? "?" : "-";
+        if (!endings.containsKey(key)) endings.put(key, lookAhead(turns, i, holders));
+        int[] ending = holders.clone();
+        for (int o = 0; o < o(); o++) if (holders[o] == NONE) ending[o] = endings.get(key)[o];
+        return ending;
+    }
+
+    int[] lookAhead(int[] turns, int i, int[] holders) {
         if (i == turns.length) return holders;
         int[] best = null;
         for (int o = 0; o < o(); o++) {
@@ -383,8 +397,8 @@ final class Naive {
     }
 
     int[] foreseen(int c) {
-        int[] turns = turns(c);
-        return foreseen.computeIfAbsent(Arrays.toString(turns), key -> foresee(turns, 0, none()));
+        if (!foreseen.containsKey(c)) foreseen.put(c, foresee(turns(c), 0, none()));
+        return foreseen.get(c);
     }
 
     List<int[]> pairs(int[] holders) {
@@ -806,6 +820,7 @@ final class Naive {
         act();
         int before = seatsOf(p);
         h.of.get(p)[0] = n;
+        foreseen.clear();
         return before;
     }
 
@@ -820,6 +835,7 @@ final class Naive {
         nowCoalition = (Integer) last[0];
         holder = (Integer[]) last[1];
         h.of = (List<int[]>) last[2];
+        foreseen.clear();
         return acts.size();
     }
 

@@ -1,3 +1,6 @@
+import java.util.ArrayList;
+import java.util.Collections;
+import java.util.List;
 import java.util.Random;
 
 /** Runs of drawn calls (the same ones each time), each answer held against Naive's. */
@@ -66,22 +69,21 @@ public final class RandomRunsTest {
     }
 
     private void run(int run) {
-        // Few of the runs have all that a HOUSE can have: Naive looks at each order of OFFICES.
-        boolean large = run % 40 == 0;
-        while (calls < 480) {
+        // Few of the runs have all that a HOUSE can have: they take Naive long.
+        boolean large = run % 20 == 0;
+        y.large = large;
+        while (calls < 450) {
             tell(large);
-            int many = large ? 60 : 20 + below(60);
+            int many = large ? 150 : 20 + below(60);
             for (int i = 0; i < many && calls < 500; i++) {
-                // What looks at all COALITIONS takes Naive long in a large HOUSE.
-                ask(large && !chance(3) ? below(26) : below(46));
+                ask(below(46));
                 if (wrong > 0) return;
             }
-            if (large) return;
         }
     }
 
     private void tell(boolean large) {
-        String text = text(large);
+        String text = large ? fullText() : text();
         if (!large && chance(35)) text = spoilt(text);
         if (text.length() > 900) text = text.substring(0, 900);
         feed(text);
@@ -106,9 +108,9 @@ public final class RandomRunsTest {
         due("end(" + text.length() + ")", x.end(text.length()), y.end(text.length()));
     }
 
-    private String text(boolean large) {
-        int parties = large ? 7 : below(10) == 0 ? below(8) : 2 + below(4);
-        int offices = large ? 8 : below(12) == 0 ? below(7) : 2 + below(4);
+    private String text() {
+        int parties = below(10) == 0 ? below(8) : 2 + below(4);
+        int offices = below(12) == 0 ? below(7) : 2 + below(4);
         int mostWorth = chance(50) ? 5 : 99;
         int mostSeats = chance(30) ? 4 : chance(80) ? 60 : 999;
         StringBuilder t = new StringBuilder();
@@ -127,8 +129,8 @@ public final class RandomRunsTest {
         for (int p = 0; p < parties; p++) {
             for (int o = 0; o < offices; o++) {
                 String names = " p" + (char) ('a' + p) + " o" + (char) ('a' + o) + " ";
-                if (chance(large ? 60 : 85)) t.append("worth").append(names).append(below(mostWorth + 1)).append(';');
-                if (!large && chance(60)) t.append("stance").append(names).append(below(10)).append(';');
+                if (chance(85)) t.append("worth").append(names).append(below(mostWorth + 1)).append(';');
+                if (chance(60)) t.append("stance").append(names).append(below(10)).append(';');
             }
         }
         for (int i = below(4); i > 0 && parties > 1; i--) {
@@ -137,6 +139,40 @@ public final class RandomRunsTest {
             if (chance(40)) t.append("bar p").append((char) ('a' + p)).append(" p").append((char) ('a' + q)).append(";");
         }
         return t.length() > 900 ? t.substring(0, t.lastIndexOf(";", 899) + 1) : t.toString();
+    }
+
+    /** As many PARTIES and OFFICES as can be, or one less, with short NAMES: most worths find room then. */
+    private String fullText() {
+        int parties = 6 + below(2);
+        int offices = 7 + below(2);
+        int mostWorth = new int[] {1, 3, 9, 99}[below(4)];
+        int mostSeats = new int[] {1, 4, 60, 999}[below(4)];
+        int walk = chance(30) ? 999 : 10 * mostWorth;
+        StringBuilder t = new StringBuilder();
+        if (chance(50)) t.append("divisors ").append(1 + below(99)).append(' ').append(1 + below(99)).append(';');
+        if (chance(20)) t.append("need").append(1 + below(Math.min(999, parties * mostSeats))).append(';');
+        if (chance(50)) t.append("care").append(below(10)).append(';');
+        if (chance(70)) t.append("tries").append(1 + below(9)).append(';');
+        if (chance(50)) t.append("tire").append(below(100)).append(';');
+        for (int o = 0; o < offices; o++) t.append("office ").append((char) ('a' + o)).append(';');
+        for (int p = 0; p < parties; p++) {
+            t.append("party ").append((char) ('q' + p)).append(" seats").append(1 + below(mostSeats)).append(" at").append(below(100));
+            if (chance(40)) t.append(" walk").append(walk);
+            t.append(';');
+        }
+        if (chance(50)) t.append("bar q ").append((char) ('r' + below(parties - 1))).append(';');
+        List<String> lines = new ArrayList<>();
+        boolean stances = chance(50);
+        for (int p = 0; p < parties; p++) {
+            for (int o = 0; o < offices; o++) {
+                String names = " " + (char) ('q' + p) + " " + (char) ('a' + o);
+                lines.add("worth" + names + (chance(30) ? mostWorth : below(mostWorth + 1)) + ";");
+                if (stances) lines.add("stance" + names + below(10) + ";");
+            }
+        }
+        Collections.shuffle(lines, random);
+        for (String line : lines) if (t.length() + line.length() <= 900) t.append(line);
+        return t.toString();
     }
 
     private String spoilt(String text) {
